@@ -35,6 +35,10 @@ final class Promise04StartTest {
         }
         Check.due("guest 1", Look.image(x, 1) + Look.counts(x, 1), Look.image(as, 1) + Look.counts(as, 1));
         Check.due("guest 2", Look.counts(x, 2), Look.counts(as, 2));
+        x.start(1, 32);
+        for (int what = 0; what <= 10; what++) {
+            Check.due("guest(2, " + what + ")", x.guest(2, what), as.guest(2, what));
+        }
         Check.due("turn(false)", x.turn(false), 2);
         Check.due("turn(true)", x.turn(true), 1);
         Check.due("told", x.told(0), as.told(0));

@@ -107,6 +107,7 @@ final class Promise11InstructionsTest {
         x.store(0, 60, -1 - 64 - 128);
         x.run(2);
         Check.due("TABLE", x.guest(0, 2), 9);
+        Check.due("TABLE tells nothing", x.told(0), -1);
         x.run(1);
         Check.due("TELL", x.told(0), 4294967296L + 201);
         x.run(1);

@@ -66,12 +66,14 @@ final class Promise11InterruptsTest {
     private static void callKeepsTheNextAddress() {
         ControlProgram x = new ControlProgram();
         x.store(0, 3, 40 + Code.ENABLED);
-        x.store(0, 20, Code.call(-1, 45));
-        x.start(0, 20 + Code.PROBLEM);
-        x.run(1);
+        Scene.program(x, 0, 19, Code.set(0, 9), Code.call(-1, 45));
+        x.start(0, 19 + Code.PROBLEM);
+        x.run(2);
         kept(x, 0, 21 + Code.PROBLEM, 255, 45);
         Check.due("PSW", x.guest(0, 1), 40 + Code.ENABLED);
         Check.due("interrupts", x.guest(0, 10), 1);
+        Check.due("register", x.guest(0, 3), 9);
+        Check.due("TABLE", x.guest(0, 2), 0);
         Check.due("the address is not used", x.frame(0, 5), -1);
         x.store(0, 63, Code.call(256 + 3, 0));
         x.start(0, 63);

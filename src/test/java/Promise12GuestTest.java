@@ -1,6 +1,7 @@
 final class Promise12GuestTest {
     public static void main(String[] args) {
         eachThingOfEachGuest();
+        eachRegister();
         statesAndPsw();
         countsAreSinceStart();
         outsideItIsNought();
@@ -12,13 +13,24 @@ final class Promise12GuestTest {
         ControlProgram x = Scene.busy();
         int[][] due = {
             {1, 28, 7, 5, 7, 0, 0, -1, 1, 4, 0},
-            {2, 36, 0, 0, 0, -3, 0, 44, 2, 4, 0},
-            {0, 16, 21, 0, 0, 0, 21, -1, 2, 3, 1},
+            {2, 36, 0, -3, 0, 0, 0, 44, 2, 4, 0},
+            {0, 16, 21, 21, 0, 0, 0, -1, 2, 3, 1},
         };
         for (int g = 0; g < 3; g++) {
             for (int what = 0; what <= 10; what++) {
                 Check.due("guest(" + g + ", " + what + ")", x.guest(g, what), due[g][what]);
             }
+        }
+    }
+
+    private static void eachRegister() {
+        ControlProgram x = new ControlProgram();
+        Scene.program(x, 2, 24, Code.set(0, 10), Code.set(1, 11), Code.set(2, 12), Code.set(3, 13));
+        x.start(2, 24);
+        x.run(4);
+        for (int r = 0; r < 4; r++) {
+            Check.due("register " + r, x.guest(2, 3 + r), 10 + r);
+            Check.due("register " + r + " of another guest", x.guest(1, 3 + r), 0);
         }
     }
 

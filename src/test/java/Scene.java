@@ -16,9 +16,9 @@ final class Scene {
     static ControlProgram busy() {
         ControlProgram x = new ControlProgram();
         program(x, 0, 24, Code.set(0, 5), Code.set(1, 7), Code.table(1), Code.tell(0), Code.go(27));
-        program(x, 1, 32, Code.set(2, -3), Code.store(2, 40), Code.tell(2), Code.waits());
+        program(x, 1, 32, Code.set(0, -3), Code.store(0, 40), Code.tell(0), Code.waits());
         x.store(2, 3, 16);
-        program(x, 2, 16, Code.set(3, 21), Code.table(3), Code.call(9, 50));
+        program(x, 2, 16, Code.set(0, 21), Code.table(0), Code.call(9, 50));
         x.start(0, 24);
         x.start(1, 32);
         x.start(2, 16);
