@@ -26,6 +26,22 @@ final class Check {
         }
     }
 
+    /** Guest 0's words of interrupt i: the PSW, the code and the address that it kept. */
+    static void kept(ControlProgram x, int i, int psw, int code, int address) {
+        due("PSW kept by interrupt " + i, x.word(0, 4 * i), psw);
+        due("code kept by interrupt " + i, x.word(0, 4 * i + 1), code);
+        due("address kept by interrupt " + i, x.word(0, 4 * i + 2), address);
+    }
+
+    static void turn(ControlProgram x, int g, int left) {
+        due("turn(false)", x.turn(false), g);
+        due("turn(true)", x.turn(true), left);
+    }
+
+    static int wrong() {
+        return wrong;
+    }
+
     static void end() {
         if (wrong != 0) {
             System.out.println(wrong + " answers are not as due");

@@ -8,7 +8,7 @@ final class Code {
     private Code() {
     }
 
-    private static int word(int op, int r, int a, int c) {
+    static int word(int op, int r, int a, int c) {
         return op | r << 4 | a << 6 | c << 12;
     }
 

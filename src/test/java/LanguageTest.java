@@ -5,9 +5,9 @@ import java.lang.reflect.Method;
 import java.lang.reflect.Modifier;
 import java.nio.file.Files;
 import java.nio.file.Path;
-import java.util.ArrayList;
-import java.util.List;
+import java.util.Map;
 import java.util.Set;
+import java.util.TreeMap;
 import java.util.TreeSet;
 import java.util.regex.Matcher;
 import java.util.regex.Pattern;
@@ -24,9 +24,16 @@ final class LanguageTest {
         "public int ControlProgram.leads(int,int,boolean)", "public long ControlProgram.told(int)",
         "public int ControlProgram.turn(boolean)");
     private static final Set<String> CONSTANTS = Set.of("STOPPED", "RUNNING", "WAITING", "BAD");
-    private static final String FORBIDDEN = "\\b(import|package|throw|try|catch|synchronized|assert|instanceof|null"
-        + "|float|double|String|Object|Math|Integer|Long|System|Arrays|interface|enum|record)\\b|->|::";
-    private static final int MOST_LINES = 60;
+    private static final String FORBIDDEN = "\\b(import|package|throw|throws|try|catch|synchronized|assert|instanceof"
+        + "|null|float|double|String|Object|Math|Integer|Long|System|Arrays)\\b|->|::";
+    private static final Pattern TYPE = Pattern.compile("\\b(class|interface|enum|record)\\s+\\w+\\s*[<({]");
+    private static final Pattern METHOD =
+        Pattern.compile("\\b(?:public|private)\\s+(?:static\\s+)?(?:\\w+\\s+)?(\\w+)\\s*\\([^()]*\\)\\s*\\{");
+    private static final Pattern CALL = Pattern.compile("\\b(?!(?:if|for|while|switch|return)\\b)(\\w+)\\s*\\(");
+    private static final Pattern NEW_ARRAY =
+        Pattern.compile("new\\s+(int|long|short|byte|char|boolean)\\s*\\[[^\\[\\]]+\\]");
+    /** The rule says "some sixty". */
+    private static final int MOST_LINES = 65;
     private static final int MOST_DEEP = 6;
     private static final int MOST_FIELDS = 40;
 
@@ -36,7 +43,11 @@ final class LanguageTest {
         String text = Files.readString(Path.of("src/main/java/ControlProgram.java"));
         String code = text.replaceAll("(?s)/\\*.*?\\*/", "").replaceAll("//[^\n]*", "");
         forbiddenWords(code);
-        methodsAreShortAndCallsNotDeep(code);
+        Map<String, String> bodies = bodies(code);
+        arraysAreMadeAtTheStart(code, bodies);
+        methodsAreShort(bodies);
+        noCallInACallsArguments(bodies);
+        callsAreNotDeep(bodies);
         Check.end();
     }
 
@@ -88,34 +99,64 @@ final class LanguageTest {
         while (m.find()) {
             Check.due("the word " + m.group(), true, false);
         }
-        Matcher news = Pattern.compile("\\bnew\\b.*").matcher(code);
-        while (news.find()) {
-            Check.due(news.group(), news.group().matches("new (int|long|boolean)\\[[A-Z_]+\\];"), true);
-        }
+        Check.due("classes in the file", TYPE.matcher(code).results().count(), 1);
     }
 
-    private static void methodsAreShortAndCallsNotDeep(String code) {
-        List<String> names = new ArrayList<>();
-        List<String> bodies = new ArrayList<>();
-        Matcher m = Pattern.compile("(?ms)^    (?:public|private)(?: static)? \\w+ (\\w+)\\([^)]*\\) \\{\n(.*?)^    \\}")
-            .matcher(code);
+    /** The bodies of the methods and of the constructor, by name. */
+    private static Map<String, String> bodies(String code) {
+        Map<String, String> bodies = new TreeMap<>();
+        Matcher m = METHOD.matcher(code);
         while (m.find()) {
-            names.add(m.group(1));
-            bodies.add(m.group(2));
-            Check.due(m.group(1) + " is short", m.group(2).lines().count() <= MOST_LINES, true);
+            bodies.put(m.group(1), code.substring(m.end() - 1, close(code, m.end() - 1, '{', '}')));
         }
-        Check.due("methods found", names.size(), ControlProgram.class.getDeclaredMethods().length);
-        // The methods a chain of calls has got to, grown a call at a time: a recursion would never leave it empty.
-        Set<String> reached = new TreeSet<>(names);
+        Check.due("bodies found", bodies.size(), ControlProgram.class.getDeclaredMethods().length + 1);
+        return bodies;
+    }
+
+    /** The place of what closes the brace or parenthesis at this place. */
+    private static int close(String code, int at, char open, char closing) {
+        int depth = 0;
+        for (int i = at; i < code.length(); i++) {
+            if (code.charAt(i) == open) {
+                depth++;
+            } else if (code.charAt(i) == closing && --depth == 0) {
+                return i;
+            }
+        }
+        return code.length();
+    }
+
+    private static void arraysAreMadeAtTheStart(String code, Map<String, String> bodies) {
+        long made = Pattern.compile("\\bnew\\b").matcher(code).results().count();
+        Check.due("things made that are no arrays", made - NEW_ARRAY.matcher(code).results().count(), 0);
+        bodies.forEach((name, body) -> {
+            boolean makes = Pattern.compile("\\bnew\\b").matcher(body).find();
+            Check.due(name + " makes something", makes && !name.equals("ControlProgram"), false);
+        });
+    }
+
+    private static void methodsAreShort(Map<String, String> bodies) {
+        bodies.forEach((name, body) -> Check.due(name + " is short", body.lines().count() <= MOST_LINES, true));
+    }
+
+    private static void noCallInACallsArguments(Map<String, String> bodies) {
+        bodies.forEach((name, body) -> {
+            Matcher call = CALL.matcher(body);
+            while (call.find()) {
+                String arguments = body.substring(call.end(), close(body, call.end() - 1, '(', ')'));
+                Check.due("a call in " + name + ": " + call.group() + arguments, CALL.matcher(arguments).find(), false);
+            }
+        });
+    }
+
+    /** The methods that a chain of calls has got to, grown a call at a time: a recursion would never leave it empty. */
+    private static void callsAreNotDeep(Map<String, String> bodies) {
+        Set<String> reached = new TreeSet<>(bodies.keySet());
         for (int deep = 1; deep <= MOST_DEEP; deep++) {
             Set<String> next = new TreeSet<>();
             for (String name : reached) {
-                Matcher call = Pattern.compile("\\b(\\w+)\\(").matcher(bodies.get(names.indexOf(name)));
-                while (call.find()) {
-                    if (names.contains(call.group(1))) {
-                        next.add(call.group(1));
-                    }
-                }
+                CALL.matcher(bodies.get(name)).results().map(call -> call.group(1)).filter(bodies::containsKey)
+                    .forEach(next::add);
             }
             reached = next;
         }

@@ -1,3 +1,6 @@
+import java.util.Map;
+import java.util.TreeMap;
+
 /**
  * All that can be seen of an object, as text. It takes 259 calls, so an object that is used for at most 512 can be
  * looked at once: to see that a call changes nothing, two objects are made alike and one of them gets the call.
@@ -41,5 +44,37 @@ final class Look {
             seen.append(' ').append(x.frame(g, p));
         }
         return seen.append('\n').toString();
+    }
+
+    /** What frames 0 to 5 hold, as guest.page each, or - for nothing; a frame with two pages tells both. */
+    static String pages(ControlProgram x) {
+        String[] held = {"-", "-", "-", "-", "-", "-"};
+        for (int g = 0; g < 3; g++) {
+            for (int p = 0; p < 8; p++) {
+                int f = x.frame(g, p);
+                if (f != -1) {
+                    held[f] = (held[f].equals("-") ? "" : held[f] + "+") + g + "." + p;
+                }
+            }
+        }
+        return String.join(" ", held);
+    }
+
+    /** What guests are and what was told, a name to each thing, so that a test can tell which of them change. */
+    static Map<String, Long> things(ControlProgram x) {
+        String[] names = {"state", "PSW", "TABLE", "register 0", "register 1", "register 2", "register 3", "code"};
+        Map<String, Long> things = new TreeMap<>();
+        for (int g = 0; g < 3; g++) {
+            for (int what = 0; what < names.length; what++) {
+                things.put(g + " " + names[what], (long) x.guest(g, what));
+            }
+            for (int a = 0; a < 64; a++) {
+                things.put(g + " word " + a, (long) x.word(g, a));
+            }
+        }
+        for (int k = 0; k < 8; k++) {
+            things.put("told " + k, x.told(k));
+        }
+        return things;
     }
 }

@@ -14,12 +14,6 @@ final class Promise11InterruptsTest {
         Check.end();
     }
 
-    private static void kept(ControlProgram x, int i, int psw, int code, int address) {
-        Check.due("PSW kept", x.word(0, 4 * i), psw);
-        Check.due("code", x.word(0, 4 * i + 1), code);
-        Check.due("address", x.word(0, 4 * i + 2), address);
-    }
-
     private static void noInstruction() {
         for (int mode : new int[] {0, Code.PROBLEM}) {
             ControlProgram x = new ControlProgram();
@@ -27,7 +21,7 @@ final class Promise11InterruptsTest {
             x.store(0, 20, Code.NO_INSTRUCTION | -5 << 4);
             x.start(0, 20 + mode);
             x.run(1);
-            kept(x, 1, 20 + mode, 1, 20);
+            Check.kept(x, 1, 20 + mode, 1, 20);
             Check.due("PSW", x.guest(0, 1), 33);
             Check.due("interrupts", x.guest(0, 10), 1);
             Check.due("steps", x.guest(0, 9), 1);
@@ -43,7 +37,7 @@ final class Promise11InterruptsTest {
             Scene.program(x, 0, 20, Code.set(1, 9), word);
             x.start(0, 20 + Code.PROBLEM);
             x.run(2);
-            kept(x, 1, 21 + Code.PROBLEM, 2, 21);
+            Check.kept(x, 1, 21 + Code.PROBLEM, 2, 21);
             Check.due("PSW", x.guest(0, 1), 33);
             Check.due("TABLE", x.guest(0, 2), 0);
             Check.due("told", x.told(0), -1);
@@ -69,7 +63,7 @@ final class Promise11InterruptsTest {
         Scene.program(x, 0, 19, Code.set(0, 9), Code.call(-1, 45));
         x.start(0, 19 + Code.PROBLEM);
         x.run(2);
-        kept(x, 0, 21 + Code.PROBLEM, 255, 45);
+        Check.kept(x, 0, 21 + Code.PROBLEM, 255, 45);
         Check.due("PSW", x.guest(0, 1), 40 + Code.ENABLED);
         Check.due("interrupts", x.guest(0, 10), 1);
         Check.due("register", x.guest(0, 3), 9);
@@ -78,7 +72,7 @@ final class Promise11InterruptsTest {
         x.store(0, 63, Code.call(256 + 3, 0));
         x.start(0, 63);
         x.run(1);
-        kept(x, 0, 0, 3, 0);
+        Check.kept(x, 0, 0, 3, 0);
     }
 
     private static void externalComesBeforeTheInstruction() {
@@ -89,7 +83,7 @@ final class Promise11InterruptsTest {
         x.post(0, 0);
         x.store(0, 10, 77);
         x.run(1);
-        kept(x, 2, 20 + Code.ENABLED + Code.PROBLEM, 0, 0);
+        Check.kept(x, 2, 20 + Code.ENABLED + Code.PROBLEM, 0, 0);
         Check.due("nothing was carried out", x.guest(0, 3), 0);
         Check.due("nor used", x.frame(0, 2), -1);
         Check.due("pending", x.guest(0, 7), -1);
@@ -111,7 +105,7 @@ final class Promise11InterruptsTest {
         Check.due("run", x.run(9), 1);
         x.post(0, 6);
         Check.due("run", x.run(1), 1);
-        kept(x, 2, 21 + Code.ENABLED, 6, 0);
+        Check.kept(x, 2, 21 + Code.ENABLED, 6, 0);
         Check.due("state", x.guest(0, 0), ControlProgram.RUNNING);
         Check.due("PSW", x.guest(0, 1), 40);
     }
@@ -135,7 +129,7 @@ final class Promise11InterruptsTest {
         x.store(0, 20, Code.NO_INSTRUCTION);
         x.start(0, 20 + Code.MAPPED);
         x.run(1);
-        kept(x, 1, 20 + Code.MAPPED, 1, 20);
+        Check.kept(x, 1, 20 + Code.MAPPED, 1, 20);
         Check.due("PSW", x.guest(0, 1), 33);
         Check.due("frame", x.frame(0, 0), 1);
         Check.due("frame", x.frame(0, 5), -1);

@@ -5,31 +5,26 @@ final class Promise16TurnTest {
         Check.end();
     }
 
-    private static void turn(ControlProgram x, int g, int left) {
-        Check.due("turn(false)", x.turn(false), g);
-        Check.due("turn(true)", x.turn(true), left);
-    }
-
     private static void itTellsTheGuestAndTheStepsLeft() {
         ControlProgram x = new ControlProgram();
-        turn(x, 0, 4);
+        Check.turn(x, 0, 4);
         x.start(2, 24);
-        turn(x, 0, 4);
+        Check.turn(x, 0, 4);
         x.run(1);
-        turn(x, 2, 3);
+        Check.turn(x, 2, 3);
         x.run(3);
-        turn(x, 2, 0);
+        Check.turn(x, 2, 0);
         x.run(1);
-        turn(x, 2, 3);
+        Check.turn(x, 2, 3);
         x.start(1, 24);
         x.run(3);
-        turn(x, 2, 0);
+        Check.turn(x, 2, 0);
         x.run(2);
-        turn(x, 1, 2);
+        Check.turn(x, 1, 2);
         x.run(0);
-        turn(x, 1, 2);
+        Check.turn(x, 1, 2);
         x.run(101);
-        turn(x, 1, 2);
+        Check.turn(x, 1, 2);
     }
 
     private static void otherCallsLeaveTheTurn() {
@@ -42,9 +37,9 @@ final class Promise16TurnTest {
         x.back(2, 0);
         x.post(2, 5);
         x.store(2, 0, 1);
-        turn(x, 2, 1);
+        Check.turn(x, 2, 1);
         x.copy(0, 2);
         x.run(1);
-        turn(x, 2, 0);
+        Check.turn(x, 2, 0);
     }
 }
